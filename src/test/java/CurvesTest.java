@@ -9,6 +9,7 @@ public final class CurvesTest {
         marksOfShared();
         marksOfLinked();
         marksOfDropped();
+        marksOfLittle();
         marksOfNothing();
         wrongMarks();
         place();
@@ -126,6 +127,17 @@ public final class CurvesTest {
             x.worth(q, 0);
         }
         Due.marksAre(due, x, 0, 0, 0, 0, 0);
+    }
+
+    private static void marksOfLittle() {
+        MarkCurves x = new MarkCurves();
+        Due.read(x, "pupil 0 0 1;pupil 0;stretched;bent;dropped");
+        Due.marksAre(due, x, 0, 100, 0);
+        Due.marksAre(due, x, 1, 100, 0);
+        for (int q = 1; q < 8; q++) {
+            x.worth(q, q == 1 ? 1 : 0);
+        }
+        Due.marksAre(due, x, 2, 11, 0);
     }
 
     private static void marksOfNothing() {

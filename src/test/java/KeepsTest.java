@@ -11,6 +11,7 @@ public final class KeepsTest {
         movesByPlaces();
         movesByLinks();
         without();
+        withoutForTheFirst();
         withoutHoldsOldMean();
         wrongInputs();
         due.end();
@@ -109,7 +110,7 @@ public final class KeepsTest {
         for (int p = 4; p < 11; p++) {
             x.pupil(0);
         }
-        due.that("an 11th is moved or not", x.moves(0, 0) >= 0);
+        due.is("a 12th lifts the third place to 100", x.moves(0, 0), 2);
         x.pupil(0);
         due.is("there are 12", x.moves(0, 0), Due.STATE);
         due.is("there are 12, but no such curve", x.moves(1, 0), Due.BEYOND);
@@ -135,6 +136,11 @@ public final class KeepsTest {
         due.is("without 1", x.without(0, 1), 1);
         due.is("added: full falls", x.without(1, 3), Due.NONE);
         due.is("dropped: the dropped one", x.without(2, 2), Due.NONE);
+        x.worth(2, 0);
+        due.is("dropped: one without worth", x.without(2, 2), Due.NONE);
+        x.worth(2, 10);
+        x.point(0, 2, 0, 10);
+        x.point(0, 2, 1, 10);
         due.is("worth is as it was", x.paper(0), 80);
         due.is("points are as they were", x.pupilOf(0, 1), 30);
         x.point(1, 0, 0, 0);
@@ -144,6 +150,12 @@ public final class KeepsTest {
         x.point(1, 5, 0, 10);
         x.point(1, 5, 1, 10);
         due.is("of several the least", x.without(0, 0), 1);
+    }
+
+    private static void withoutForTheFirst() {
+        MarkCurves x = new MarkCurves();
+        Due.read(x, "pupil 0 5;pupil 0 9 9;stretched");
+        due.is("pupil 0 is found too", x.without(0, 1), 0);
     }
 
     /** A common question without worth is common still. */

@@ -33,6 +33,7 @@ public final class TextsTest {
         due.is("one too many", x.feed(0, 1), Due.FULL);
         due.is("none at a full tape", x.feed(0, 0), Due.BEYOND);
         due.is("120 bytes", x.count(3), 120);
+        due.is("twice it was full", x.status(1), 2);
     }
 
     private static void wipe() {
