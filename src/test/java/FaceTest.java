@@ -6,6 +6,8 @@ import java.lang.reflect.Method;
 import java.lang.reflect.Modifier;
 import java.nio.file.Files;
 import java.nio.file.Path;
+import java.util.ArrayDeque;
+import java.util.Deque;
 import java.util.List;
 import java.util.Random;
 import java.util.Set;
@@ -32,7 +34,7 @@ public final class FaceTest {
         noOtherMembers();
         source(Files.readString(Path.of("src/main/java/MarkCurves.java")));
         wildCallsEnd();
-        noRoomTaken();
+        littleRoomIsTaken();
         due.end();
     }
 
@@ -77,7 +79,8 @@ public final class FaceTest {
             due.that(inside + " is static", Modifier.isStatic(inside.getModifiers()));
             due.that(inside + " is not public", !Modifier.isPublic(inside.getModifiers()));
             for (Method m : inside.getDeclaredMethods()) {
-                due.that(m + " has a name of its own", !names.contains(m.getName()));
+                boolean hidden = Modifier.isPrivate(m.getModifiers());
+                due.that(m + " has a name of its own", !hidden || !names.contains(m.getName()));
                 due.that(m + " has few parameters", m.getParameterCount() <= 7);
             }
             staticFieldsAreFinal(inside);
@@ -99,44 +102,64 @@ public final class FaceTest {
 
     private static void source(String text) {
         String code = text.replaceAll("(?s)/\\*.*?\\*/", "").replaceAll("//[^\n]*", "");
-        String[] ruledOut = {"throw", "throws", "try", "catch", "synchronized", "assert", "package", "goto",
-            "long", "double", "float", "System\\.(?!arraycopy)", "Exact", "hashCode", "toString", "values"};
+        due.that("signs 1 to 127 alone", code.chars().allMatch(c -> c > 0 && c < 128));
+        code = code.replaceAll("'(\\\\.|[^'])*'", "' '").replaceAll("\"(\\\\.|[^\"])*\"", "\" \"");
+        String[] ruledOut = {"throw\\b", "throws\\b", "try\\b", "catch\\b", "synchronized\\b", "assert\\b",
+            "package\\b", "System\\.(?!arraycopy)", "\\w*Exact\\b", "hashCode\\b", "equals\\s*\\(\\s*Object", "Random\\b",
+            "Thread\\b", "import static\\b"};
         for (String word : ruledOut) {
             due.that("no " + word, !Pattern.compile("\\b" + word).matcher(code).find());
         }
-        due.that("no lambda", !code.contains("->"));
+        due.that("no lambda", !Pattern.compile("\\)\\s*->|\\w\\s*->\\s*\\{?\\s*return").matcher(code).find());
         due.that("no method reference", !code.contains("::"));
         Matcher imports = Pattern.compile("import ([^;]*);").matcher(code);
         while (imports.find()) {
-            due.that("import " + imports.group(1), imports.group(1).equals("java.util.Arrays"));
+            due.that("import " + imports.group(1),
+                    imports.group(1).matches("java\\.util\\.(Arrays|ArrayList|List|Iterator)"));
         }
-        due.that("ASCII alone", text.chars().allMatch(c -> c == '\n' || (c >= 32 && c < 127)));
         methodsAreShort(code);
     }
 
+    /** A block is a method's if what stands ahead of it ends with parameters and isn't a statement. */
     private static void methodsAreShort(String code) {
-        int began = -1;
-        String[] lines = code.split("\n");
-        String indent = "";
-        for (int i = 0; i < lines.length; i++) {
-            Matcher head = Pattern.compile("^( {4}| {8})[a-zA-Z].*\\) \\{$").matcher(lines[i]);
-            boolean statement = lines[i].matches("^ *(if|for|while|switch|do|else)\\b.*");
-            if (began < 0 && head.matches() && !statement) {
-                began = i;
-                indent = head.group(1);
-            } else if (began >= 0 && lines[i].equals(indent + "}")) {
-                due.that("a method of " + (i - began + 1) + " lines: " + lines[began].trim(), i - began < 60);
-                began = -1;
+        Deque<Integer> begins = new ArrayDeque<>();
+        Deque<String> heads = new ArrayDeque<>();
+        int line = 1;
+        StringBuilder head = new StringBuilder();
+        int methods = 0;
+        for (char c : code.toCharArray()) {
+            line += c == '\n' ? 1 : 0;
+            if (c == '{') {
+                begins.push(line);
+                heads.push(head.toString().trim());
+            } else if (c == '}' && !begins.isEmpty()) {
+                int lines = line - begins.pop() + 1;
+                String of = heads.pop();
+                boolean statement = of.matches("(?s)(else\\s+)?(if|for|while|switch|catch|do)\\b.*");
+                if (of.endsWith(")") && !statement) {
+                    methods++;
+                    due.that("a method of " + lines + " lines: " + of, lines <= 65);
+                }
+            }
+            head.append(c);
+            if (c == '{' || c == '}' || (c == ';' && !isInParentheses(head))) {
+                head.setLength(0);
             }
         }
-        due.is("all methods end", began, -1);
+        due.that("blocks end", begins.isEmpty());
+        due.that("there are " + methods + " methods", methods > Calls.ACTS);
     }
 
+    private static boolean isInParentheses(StringBuilder head) {
+        return head.chars().filter(c -> c == '(').count() > head.chars().filter(c -> c == ')').count();
+    }
+
+    /** An object is used for 512 calls; within these every call ends with an answer. */
     private static void wildCallsEnd() {
         Random random = new Random(5);
-        for (int run = 0; run < 400; run++) {
+        for (int run = 0; run < 1200; run++) {
             MarkCurves x = new MarkCurves();
-            for (int call = 0; call < 1500; call++) {
+            for (int call = 0; call < 512; call++) {
                 int act = 1 + random.nextInt(Calls.ACTS);
                 int[] a = new int[5];
                 for (int i = 0; i < 5; i++) {
@@ -161,19 +184,25 @@ public final class FaceTest {
         }
     }
 
-    /** All calls of one run live in one room: none of them may make anything. */
-    private static void noRoomTaken() {
+    /** All calls of one run live in one room, so those of one object leave most of it to others. */
+    private static void littleRoomIsTaken() {
         com.sun.management.ThreadMXBean room =
                 (com.sun.management.ThreadMXBean) ManagementFactory.getThreadMXBean();
+        MarkCurves warm = Due.fourPupils();
+        askEachAct(warm, 4);
+        long before = room.getCurrentThreadAllocatedBytes();
         MarkCurves x = Due.fourPupils();
         Due.feed(x, "question 0 worth 20;common 0 30;bent by 4;pupil 1 2");
-        long before = room.getCurrentThreadAllocatedBytes();
-        for (int round = 0; round < 1000; round++) {
+        askEachAct(x, 8);
+        long taken = room.getCurrentThreadAllocatedBytes() - before;
+        due.that("512 calls took " + taken + " bytes", taken < 500_000);
+    }
+
+    private static void askEachAct(MarkCurves x, int rounds) {
+        for (int round = 0; round < rounds; round++) {
             for (int act = 1; act <= Calls.ACTS; act++) {
                 Calls.ask(x, act, 0, round & 3, 1, 0, 1);
             }
         }
-        long taken = room.getCurrentThreadAllocatedBytes() - before;
-        due.that("50000 calls took " + taken + " bytes", taken < 100_000);
     }
 }

@@ -1,8 +1,24 @@
-/** The acts by their numbers, in the order of the document's face: 1 is worth, 50 is status. */
+import java.util.Arrays;
+import java.util.List;
+
+/** The acts by their names, or by their numbers in the order of the face: 1 is worth, 50 is status. */
 final class Calls {
     static final int ACTS = 50;
 
+    private static final List<String> NAMES = List.of(
+        "worth", "common", "pupil", "point", "pupilOf", "paper", "drawn", "drop", "curve", "curveOf",
+        "turn", "by", "mark", "place", "sum", "middle", "keeps", "breaks", "heaped", "gains", "gainsBy",
+        "moves", "without", "pass", "line", "heap", "kindest", "byFor", "letters", "lean", "right",
+        "unlike", "counts", "heavy", "seed", "feed", "wipe", "text", "hold", "as", "sheet", "write",
+        "copy", "load", "judge", "image", "undo", "tear", "count", "status");
+
     private Calls() {
+    }
+
+    /** As many arguments as the act takes; those that are left out are 0. */
+    static int ask(MarkCurves x, String act, int... args) {
+        int[] a = Arrays.copyOf(args, 5);
+        return ask(x, 1 + NAMES.indexOf(act), a[0], a[1], a[2], a[3], a[4]);
     }
 
     static int ask(MarkCurves x, int act, int a, int b, int c, int d, int e) {
@@ -56,7 +72,8 @@ final class Calls {
             case 47: return x.undo();
             case 48: return x.tear();
             case 49: return x.count(a);
-            default: return x.status(a);
+            case 50: return x.status(a);
+            default: throw new IllegalArgumentException("no act " + act);
         }
     }
 }

@@ -42,6 +42,39 @@ final class Due {
         return x.text();
     }
 
+    /** All WORTHS are 40: the greatest RAW is 320. */
+    static MarkCurves widePaper() {
+        MarkCurves x = new MarkCurves();
+        for (int q = 0; q < 8; q++) {
+            x.worth(q, 40);
+        }
+        return x;
+    }
+
+    /** New pupils of class 0 on a wide paper, with as much RAW as told. */
+    static MarkCurves withRaws(int... raws) {
+        MarkCurves x = widePaper();
+        for (int raw : raws) {
+            addPupil(x, raw);
+        }
+        return x;
+    }
+
+    /** A new pupil with so much RAW, in QUESTIONS 0, 1, .. as far as it needs them, of WORTH 40. */
+    static int addPupil(MarkCurves x, int raw) {
+        int p = x.pupil(0);
+        for (int q = 0; 40 * q < raw; q++) {
+            score(x, p, q, Math.min(40, raw - 40 * q));
+        }
+        return p;
+    }
+
+    /** Both MARKERS give the same points. */
+    static void score(MarkCurves x, int pupil, int question, int v) {
+        x.point(pupil, question, 0, v);
+        x.point(pupil, question, 1, v);
+    }
+
     /**
      * Four pupils with 30, 5, 20 and 0 raw of 80; of classes 0, 1, 0, 2.
      * Scores: 10 10 10; 5; 0 10 0 10; none.
@@ -52,6 +85,7 @@ final class Due {
         return x;
     }
 
+    /** Asked of pupils 0, 1, .. one by one. */
     static void marksAre(Due due, MarkCurves x, int curve, int... want) {
         for (int p = 0; p < want.length; p++) {
             due.is("mark(" + curve + ", " + p + ")", x.mark(curve, p), want[p]);
