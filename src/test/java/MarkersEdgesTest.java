@@ -19,6 +19,7 @@ public final class MarkersEdgesTest {
         countsOfScores();
         heavyOfNothing();
         heavyOfSeveral();
+        heavyOfTwelve();
         seedOfAnyInt();
         due.end();
     }
@@ -223,6 +224,22 @@ public final class MarkersEdgesTest {
         due.is("of two the least", x.heavy(), 3);
         Due.score(x, 0, 6, 2);
         due.is("the one that counts most", x.heavy(), 6);
+    }
+
+    private static void heavyOfTwelve() {
+        MarkCurves x = pupils(12);
+        for (int p = 0; p < 12; p++) {
+            Due.score(x, p, 0, 5);
+        }
+        due.is("all alike in each", x.heavy(), 0);
+        due.is("in the first", x.counts(0), 0);
+        Due.score(x, 11, 7, 1);
+        due.is("one of twelve in the last", x.heavy(), 7);
+        due.is("11 times 1", x.counts(7), 11);
+        Due.score(x, 0, 0, 4);
+        due.is("as much in the first", x.heavy(), 0);
+        x.drop();
+        due.is("the first then", x.counts(0), 10);
     }
 
     private static void seedOfAnyInt() {

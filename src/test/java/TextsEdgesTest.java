@@ -28,6 +28,7 @@ public final class TextsEdgesTest {
         worthAsItIsByThen();
         numbersOfManyDigits();
         tokensAsLongAsCanBe();
+        anotherWord();
         bytesBehindAWord();
         bytesBehindANumber();
         blanksMayStandBetween();
@@ -310,11 +311,11 @@ public final class TextsEdgesTest {
         due.is("a lot of them", x.common(7, 0), 399);
         for (String number : List.of("999", "1000", "65536", "2147483647", "2147483648", "4294967295", "4294967296",
                 "4294967303", "18446744073709551616", "99999999999999999999999999999999999999999")) {
-            faulty(x, "question " + number + " worth 1", 9);
-            faulty(x, "common 0 " + number, 9);
-            faulty(x, "bent by " + number, 8);
-            faulty(x, "pupil " + number, 6);
-            faulty(x, "pupil 0 " + number, 8);
+            fault("question " + number + " worth 1", 9);
+            fault("common 0 " + number, 9);
+            fault("bent by " + number, 8);
+            fault("pupil " + number, 6);
+            fault("pupil 0 " + number, 8);
         }
     }
 
@@ -335,6 +336,22 @@ public final class TextsEdgesTest {
         due.is("1 and 0", x.pupilOf(0, 1), 1);
         reads(x, "pupil 0 10", 1);
         due.is("10", x.pupilOf(1, 1), 10);
+    }
+
+    /** Each letter of each WORD counts. */
+    private static void anotherWord() {
+        String[] texts = {"question 1 worth 2", "common 1 2", "pupil 1 2", "curve by 3", "added by 3", "stretched by 3",
+            "bent by 3", "shared by 3", "linked by 3", "dropped by 3"};
+        for (String text : texts) {
+            int begin = 0;
+            for (int i = 0; i < text.length(); i++) {
+                begin = i > 0 && text.charAt(i - 1) == ' ' ? i : begin;
+                if (isLetter(text.charAt(i))) {
+                    fault(text.substring(0, i) + 'x' + text.substring(i + 1), begin);
+                }
+            }
+            alone(text, 1);
+        }
     }
 
     private static boolean isLetter(int b) {
@@ -441,6 +458,8 @@ public final class TextsEdgesTest {
         String[] texts = {"question", "question 1", "question 1 worth", "common", "common 1", "bent by", "pupil",
             "bent;", "pupil 1 2;", "bent;question 1"};
         for (String text : texts) {
+            fault(text + ";", text.length());
+            fault(text + "  ;bent", text.length() + 2);
             for (int blanks = 0; blanks < 4; blanks++) {
                 fault(text + repeat(" ", blanks), text.length() + blanks);
             }
