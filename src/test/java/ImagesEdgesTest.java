@@ -79,7 +79,7 @@ public final class ImagesEdgesTest {
     /** All but the image itself, which Look's last parts tell. */
     private static void allOfAnyPaperComesBack() {
         for (States state : States.values()) {
-            for (int part = 0; part < 7; part++) {
+            for (int part = 0; part < Look.OF_THE_IMAGE; part++) {
                 MarkCurves x = state.make();
                 MarkCurves y = state.make();
                 x.image();
@@ -170,7 +170,7 @@ public final class ImagesEdgesTest {
     }
 
     private static void laterActsDontReachTheImage() {
-        for (int part = 7; part < Look.PARTS; part++) {
+        for (int part = Look.OF_THE_IMAGE; part < Look.PARTS; part++) {
             MarkCurves x = States.SOME.make();
             MarkCurves y = States.SOME.make();
             x.wipe();

@@ -6,7 +6,11 @@ import java.util.List;
  * good for 512 calls: so each part wants a fresh object.
  */
 final class Look {
-    static final int PARTS = 9;
+    static final int PARTS = 10;
+    /** This part may be asked of one object twice. */
+    static final int ANSWERS = 7;
+    /** From here on the parts tell what the image holds. */
+    static final int OF_THE_IMAGE = 8;
 
     private final MarkCurves x;
     private final List<Integer> seen = new ArrayList<>();
@@ -22,7 +26,8 @@ final class Look {
             case 1: look.points(); break;
             case 2: case 3: case 4: case 5: look.sheet(part - 2); break;
             case 6: look.tape(); break;
-            case 7: look.see(x.undo()); look.paper(); break;
+            case ANSWERS: look.answers(); break;
+            case OF_THE_IMAGE: look.see(x.undo()); look.paper(); break;
             default: look.see(x.undo()); look.points(); break;
         }
         return look.seen;
@@ -92,6 +97,33 @@ final class Look {
     private void loadFront(int s) {
         see(x.load(s, 0, 0));
         see(x.point(0, 0, 0, 0));
+    }
+
+    /** What follows from all the rest: nothing of it may be left over from an earlier question. */
+    private void answers() {
+        for (int c = 0; c < 6; c++) {
+            for (int p = 0; p < 12; p++) {
+                see(x.mark(c, p));
+            }
+            see(x.sum(c, 0));
+            see(x.middle(c));
+            see(x.breaks(c));
+            see(x.heaped(c));
+            see(x.gains(c));
+            see(x.moves(c, 7));
+            see(x.without(c, 2));
+            see(x.pass(c, 50));
+            see(x.line(c, 3));
+            see(x.heap(c, 50));
+            see(x.byFor(c, 20));
+            see(x.place(c, 0));
+        }
+        see(x.kindest(50));
+        see(x.lean());
+        see(x.unlike(0));
+        see(x.unlike(1));
+        see(x.counts(0));
+        see(x.heavy());
     }
 
     private void tape() {

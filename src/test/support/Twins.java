@@ -1,5 +1,6 @@
 import java.util.Arrays;
 import java.util.List;
+import java.util.function.Consumer;
 
 /**
  * Two objects of one state. One is asked a thing, then both are looked at: so a test sees what an
@@ -36,6 +37,24 @@ final class Twins {
             statusIs(told, asked, statusAfter(other, got));
             same(told, part, asked, other);
         }
+    }
+
+    /** What is done to one of them and what is done to the other come to the same, without a finding. */
+    void sameBy(String told, Consumer<MarkCurves> one, Consumer<MarkCurves> another) {
+        for (int part = 0; part < Look.PARTS; part++) {
+            MarkCurves asked = state.make();
+            MarkCurves other = state.make();
+            int[] before = Look.status(asked);
+            one.accept(asked);
+            another.accept(other);
+            statusIs(state + ": " + told, asked, before);
+            same(state + ": " + told, part, asked, other);
+        }
+    }
+
+    /** An act and its way back leave all as it was. */
+    void comesBack(String told, Consumer<MarkCurves> thereAndBack) {
+        sameBy(told, thereAndBack, untouched -> { });
     }
 
     /** The act doesn't find these arguments BEYOND. */
