@@ -345,7 +345,7 @@ public final class LeavesTest {
         }
     }
 
-    /** But for the image itself. */
+    /** But for the image itself; nothing comes back once it is torn. */
     private static void imageAndTearAlone() {
         for (States state : States.values()) {
             for (int part = 0; part < Look.OF_THE_IMAGE; part++) {
@@ -353,9 +353,10 @@ public final class LeavesTest {
                 MarkCurves torn = state.make();
                 kept.image();
                 torn.tear();
+                due.is(state + ": undo after tear", torn.undo(), Due.NONE);
                 List<Integer> untouched = Look.at(state.make(), part);
                 due.that(state + ": image, part " + part, Look.at(kept, part).equals(untouched));
-                due.that(state + ": tear, part " + part, Look.at(torn, part).equals(untouched));
+                due.that(state + ": tear and undo, part " + part, Look.at(torn, part).equals(untouched));
             }
         }
     }
